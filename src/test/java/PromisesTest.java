@@ -229,6 +229,7 @@ public final class PromisesTest {
         due(4, "ints wrap", y.layRow(0, 2, 3, 0, MIN), 1);
         due(4, "bytes of a wrap", y.layRow(0, 0, 4, MAX - 255, 256), 4);
         due(4, "no entry", y.layRow(0, 2, 0, 0, 0), 0);
+        due(4, "a clamp of one cell", new CharcoalYard().layRow(0, 0, 3, 1, 1), 1);
         rowsRefused(y);
     }
 
@@ -271,6 +272,10 @@ public final class PromisesTest {
         due(5, "while lit", y.hole(0, 0), -1);
         y.rake();
         due(5, "raked", y.hole(0, 0), 0);
+        y.open(0, true);
+        y.clamp(1, 1);
+        y.hole(0, 0);
+        due(5, "shut, though the one ahead was open", y.count(3), 0);
     }
 
     private static void lighting() {
@@ -401,6 +406,24 @@ public final class PromisesTest {
         y.cover(0, 7, 1);
         y.hour(0, 3);
         due(10, "no air", cell(y, 7, 2, 6) + cell(y, 0, 7, 6), 0);
+        airOfOneRow();
+    }
+
+    private static void airOfOneRow() {
+        CharcoalYard high = laid(1, 8, 0);
+        high.hole(0, 0);
+        high.open(0, true);
+        high.light();
+        high.hour(0, 1);
+        CharcoalYard wide = laid(8, 1, 0);
+        wide.hole(0, 0);
+        wide.open(0, true);
+        wide.light();
+        wide.hour(0, 1);
+        for (int i = 0; i < 8; i++) {
+            due(10, "air up to height " + i, cell(high, 0, i, 6), Math.max(0, 5 - i));
+            due(10, "air out to ring " + i, cell(wide, i, 0, 6), Math.max(0, 5 - i));
+        }
     }
 
     private static void burning() {
@@ -429,8 +452,40 @@ public final class PromisesTest {
         dueCell(10, "15 ash wanted, 6 there", y, at(0, 0), 76, 0, 0, 740, 1);
         due(10, "ash", y.all(4), 6);
         burningDown();
+        smokeOfAllWood();
+        aLittleWet();
         coolingDown();
         ashOfOldCoal();
+    }
+
+    /**
+     * What is cut from each hour's coal is smoke: ring 2 burns with air 5. The dry kinds come to it with airs 2 and 3,
+     * since ring 1 would be ash before ring 2 has fire; the damp ones with airs 3 and 4.
+     */
+    private static void smokeOfAllWood() {
+        int[] smoke = {75 + 225 + 375, 84 + 239 + 390, 75 + 225 + 375, 83 + 225 + 380};
+        for (int kind = 0; kind < 4; kind++) {
+            CharcoalYard y = laid(3, 1, kind);
+            y.hole(2, 0);
+            y.open(0, true);
+            for (int ring = 0; ring < 3; ring++) {
+                y.cover(ring, 0, 9);
+            }
+            y.light();
+            for (int i = 0; i < 60; i++) {
+                y.hour(0, kind > 1 || cell(y, 2, 0, 4) == 1 ? 1 : 0);
+            }
+            due(10, "all wood of kind " + kind + " is burnt", y.all(1), 0);
+            due(10, "smoke of all wood of kind " + kind, y.all(3), smoke[kind]);
+        }
+    }
+
+    private static void aLittleWet() {
+        CharcoalYard y = litOne(0);
+        y.hour(1, 0);
+        due(10, "wet 1", cell(y, 0, 0, 2), 1);
+        due(10, "an hour to dry it", y.hour(0, 0), 0);
+        due(10, "dry", y.hour(0, 0), 12);
     }
 
     private static void burningDown() {
@@ -481,6 +536,42 @@ public final class PromisesTest {
         due(10, "no fire, no heat more", cell(y, 1, 0, 3), heat);
         catchingAtThreeHundred();
         emptyCellsStayCold();
+        heatOfExactlyThreeHundred();
+        heatGoesInwardsAndDown();
+    }
+
+    /** Rain keeps the fire wet, so its heat stays 500 and 25 go over each hour. */
+    private static void heatOfExactlyThreeHundred() {
+        CharcoalYard y = laid(2, 1, 2);
+        y.hole(1, 0);
+        y.open(0, true);
+        y.light();
+        for (int i = 0; i < 11; i++) {
+            y.hour(9, 0);
+        }
+        dueCell(10, "275", y, at(1, 0), 300, 0, 300, 275, 0);
+        y.hour(9, 0);
+        dueCell(10, "300", y, at(1, 0), 300, 0, 300, 300, 1);
+    }
+
+    private static void heatGoesInwardsAndDown() {
+        int[][] inwards = {{0, 0}, {1, 0}, {1, 1}, {1, 2}, {0, 2}};
+        int[][] down = {{0, 0}, {0, 1}, {1, 1}, {2, 1}, {2, 0}};
+        for (int[][] way : new int[][][] {inwards, down}) {
+            CharcoalYard y = new CharcoalYard();
+            y.clamp(3, 3);
+            for (int[] c : way) {
+                y.lay(c[0], c[1], 0);
+                y.cover(c[0], c[1], 9);
+            }
+            for (int i = 0; i < 3; i++) {
+                y.hole(2, i);
+                y.open(i, true);
+            }
+            y.light();
+            work(y, 60);
+            due(10, "heat of the last on the way", cell(y, way[4][0], way[4][1], 3) > 0, true);
+        }
     }
 
     private static void catchingAtThreeHundred() {
@@ -589,6 +680,45 @@ public final class PromisesTest {
         fresh.cover(0, 1, 8);
         due(11, "coal", answer, fresh.all(2));
         dueAlike(y, fresh);
+        againUndoesWhatRulesDid();
+    }
+
+    private static void againUndoesWhatRulesDid() {
+        CharcoalYard y = laid(1, 1, 0);
+        y.hole(0, 0);
+        y.hole(0, 0);
+        y.open(0, true);
+        y.cover(0, 0, 2);
+        tell(y, "t=2:~");
+        tell(y, "t=2:+1");
+        tell(y, "r=9:^");
+        y.light();
+        y.cover(0, 0, 1);
+        y.hour(9, 0);
+        work(y, 3);
+        due(11, "cover 1 by hand, then 3 more", cell(y, 0, 0, 5), 4);
+        due(11, "no coal with air 4", y.again(0, 0, 0), 0);
+        due(11, "cover 1 by hand alone", cell(y, 0, 0, 5), 1);
+        due(11, "hole 1 alone is open", y.count(3), 1);
+        int[] smoke = {0, 12, 12, 12};
+        for (int hour = 0; hour < 4; hour++) {
+            due(11, "smoke of hour " + hour, y.told(hour, 2), smoke[hour]);
+        }
+        tell(y, "t=3:-1");
+        y.again(2, 0, 1);
+        due(11, "wood: 84, 64, 48", cell(y, 0, 0, 0), 48);
+        coverOfLightComesBack();
+    }
+
+    private static void coverOfLightComesBack() {
+        CharcoalYard y = laid(1, 1, 0);
+        y.cover(0, 0, 2);
+        tell(y, "r=9:^");
+        y.light();
+        y.hour(9, 0);
+        due(11, "cover 2 and 3", cell(y, 0, 0, 5), 5);
+        y.again(0, 8, 0);
+        due(11, "cover as light() left it", cell(y, 0, 0, 5), 2);
     }
 
     private static void dueAlike(CharcoalYard y, CharcoalYard fresh) {
@@ -644,9 +774,26 @@ public final class PromisesTest {
         }
         y.open(0, true);
         y.light();
-        work(y, 15);
-        due(12, "a second burning", y.rake(), 2);
-        due(12, "baskets of both, the rests thrown away", y.count(11), 4);
+        work(y, 40);
+        due(12, "100 coal", y.all(2), 100);
+        due(12, "a second burning", y.rake(), 4);
+        due(12, "baskets of both, the rest thrown away", y.count(11), 6);
+        actsAreForgottenBehindRake();
+    }
+
+    private static void actsAreForgottenBehindRake() {
+        CharcoalYard y = litOne(0);
+        y.cover(0, 0, 9);
+        y.open(0, false);
+        y.rake();
+        y.lay(0, 0, 0);
+        y.open(0, true);
+        y.light();
+        work(y, 2);
+        due(12, "none is kept", y.count(8), 0);
+        y.again(0, 0, 0);
+        due(12, "worked again without them: smoke", y.told(1, 2), 12);
+        due(12, "worked again without them: cover", cell(y, 0, 0, 5), 5);
     }
 
     private static void counting() {
@@ -868,6 +1015,37 @@ public final class PromisesTest {
         due(20, "third", cell(y, 1, 1, 5), 8);
         smokeSeenAheadOfRules();
         coverAtMostNine();
+        relations();
+        theThinnestFirst();
+    }
+
+    private static void relations() {
+        CharcoalYard y = laid(1, 1, 0);
+        tell(y, "t<2:+0");
+        tell(y, "t=2:+0");
+        tell(y, "t>2:+0");
+        y.light();
+        work(y, 4);
+        int[] want = {1, 1, 2, 4};
+        for (int hour = 0; hour < 4; hour++) {
+            due(20, "below, equal, above in hour " + hour, y.told(hour, 3), want[hour]);
+        }
+    }
+
+    private static void theThinnestFirst() {
+        CharcoalYard y = laid(2, 2, 0);
+        tell(y, "t<9:^");
+        y.light();
+        int[][] want = {{8, 5, 5}, {8, 8, 5}, {8, 8, 8}, {9, 8, 8}};
+        for (int[] covers : want) {
+            y.hour(0, 0);
+            due(20, "cover of 0, 1", cell(y, 0, 1, 5), covers[0]);
+            due(20, "cover of 1, 0", cell(y, 1, 0, 5), covers[1]);
+            due(20, "cover of 1, 1", cell(y, 1, 1, 5), covers[2]);
+        }
+        y.cover(1, 1, 1);
+        y.hour(0, 0);
+        due(20, "the least, though the last", cell(y, 1, 1, 5), 4);
     }
 
     private static void smokeSeenAheadOfRules() {
@@ -1026,6 +1204,18 @@ public final class PromisesTest {
         due(25, "all twelve", y.plan(12000), 0xFFF);
         due(25, "more than all twelve", y.plan(12001), -3);
         due(25, "the six lowest", y.plan(5001), 0x3F);
+        due(25, "the lowest", y.plan(1000), 1);
+        unripeOnes();
+    }
+
+    private static void unripeOnes() {
+        CharcoalYard y = new CharcoalYard();
+        y.wood(9, 10, 50);
+        y.wood(10, 10, 70);
+        y.wood(10, 10, 60);
+        due(25, "one that may be cut", y.plan(50), 0b100);
+        due(25, "two that may be cut", y.plan(110), 0b110);
+        due(25, "three would be needed", y.plan(131), -3);
     }
 
     private static void stands() {
