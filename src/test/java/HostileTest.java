@@ -146,5 +146,8 @@ public final class HostileTest {
         if (coal != yard.all(2) || yard.all(0) != yard.all(1) + yard.all(2) + yard.all(3) + yard.all(4)) {
             fault("the longest run lost something");
         }
+        if (yard.rake() != coal / 25 || yard.count(2) != 12 || yard.count(3) != 0) {
+            fault("twelve holes are not all shut behind rake()");
+        }
     }
 }
