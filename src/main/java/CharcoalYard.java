@@ -336,16 +336,16 @@ public final class CharcoalYard {
         return true;
     }
 
+    // The tape is empty behind every answer, so no answer leaves but by this one way.
     public int rule() {
-        if (rules.isFull()) {
-            return TOO_MANY_RULES;
-        }
-        int fault = reader.findFault();
+        int answer = rules.isFull() ? TOO_MANY_RULES : acceptTape();
         tape.length = 0;
-        if (fault != NONE) {
-            return -1 - fault;
-        }
-        return rules.accept(lit ? diary.hours : 0);
+        return answer;
+    }
+
+    private int acceptTape() {
+        int fault = reader.findFault();
+        return fault == NONE ? rules.accept(lit ? diary.hours : 0) : -1 - fault;
     }
 
     public int repeal() {

@@ -218,6 +218,7 @@ public final class ModelTest {
             int n = below(20) == 0 ? odd(0, 100) : text.length();
             due("end", yard.end(n), model.end(n));
             due("rule " + text, yard.rule(), model.rule());
+            due("signs behind rule", yard.count(10), model.count(10));
         }
 
         private void stepWoods() {
@@ -740,11 +741,11 @@ public final class ModelTest {
         }
 
         int rule() {
+            String text = tape;
+            tape = "";
             if (rules.size() == 8) {
                 return -100;
             }
-            String text = tape;
-            tape = "";
             for (int p = 0; p < Math.min(40, text.length()); p++) {
                 Matcher start = TEXT.matcher(text.substring(0, p + 1));
                 if (!start.matches() && !start.hitEnd()) {

@@ -980,12 +980,31 @@ public final class PromisesTest {
         CharcoalYard y = new CharcoalYard();
         for (int i = 0; i < 8; i++) {
             due(20, "rule " + i, tell(y, "t>1:^"), i);
+            due(20, "the tape is empty behind rule " + i, y.count(10), 0);
         }
-        due(20, "a ninth", tell(y, "t>1:^"), -100);
-        due(20, "asked first", tell(y, "x"), -100);
+        String[] ninths = {"t>1:^", "x", "", "t>1&t>1&t>1&t>1&t>1&t>1&t>1&t>1&t>1&t>1&t>1:^"};
+        for (String text : ninths) {
+            due(20, "a ninth, asked first: " + text, tell(y, text), -100);
+            due(20, "the tape is empty behind -100: " + text, y.count(10), 0);
+        }
         due(20, "rules", y.count(4), 8);
+        due(18, "signs from the first place on behind -100", y.sign(0x743E313A), 4);
+        due(20, "a ninth cut short", y.rule(), -100);
+        due(19, "nothing is left to be kept", y.end(1), false);
         due(21, "repeal()", y.repeal(), 8);
+        due(20, "an empty tape behind repeal()", y.rule(), -1);
         due(20, "anew", tell(y, "t>1:^"), 0);
+        eightRulesWhileLit();
+    }
+
+    private static void eightRulesWhileLit() {
+        CharcoalYard y = litOne(0);
+        for (int i = 0; i < 8; i++) {
+            tell(y, "t>1:~");
+        }
+        due(20, "a ninth while lit", tell(y, "t>1:~"), -100);
+        due(20, "the tape is empty then, too", y.count(10), 0);
+        due(20, "eight rules stay", y.count(4), 8);
     }
 
     private static void rulesAtWork() {
