@@ -1,13 +1,5 @@
-import java.util.NoSuchElementException;
-
 /** Each promise of the document by hand: ordinary inputs, the edges that it names, wrong inputs. */
-public final class PromisesTest {
-    private static final long THROWN = Long.MIN_VALUE;
-    private static final int MIN = Integer.MIN_VALUE;
-    private static final int MAX = Integer.MAX_VALUE;
-    private static int wrong = 0;
-    private static int asked = 0;
-
+public final class PromisesTest extends YardTest {
     public static void main(String[] args) {
         newObject();
         clamps();
@@ -40,38 +32,7 @@ public final class PromisesTest {
         cuts();
         plans();
         stands();
-        System.out.println(asked + " answers asked, " + wrong + " are not as due");
-        if (wrong != 0) {
-            System.exit(1);
-        }
-    }
-
-    private static void due(int promise, String call, long got, long want) {
-        asked++;
-        if (got != want) {
-            wrong++;
-            System.out.println("promise " + promise + ": " + call + " answered " + got + ", due is " + want);
-        }
-    }
-
-    private static void due(int promise, String call, boolean got, boolean want) {
-        due(promise, call, got ? 1 : 0, want ? 1 : 0);
-    }
-
-    private static long cell(CharcoalYard y, int ring, int height, int what) {
-        try {
-            return y.cell(ring, height, what);
-        } catch (NoSuchElementException e) {
-            return THROWN;
-        }
-    }
-
-    private static long stand(CharcoalYard y, int wood, int what) {
-        try {
-            return y.stand(wood, what);
-        } catch (NoSuchElementException e) {
-            return THROWN;
-        }
+        close();
     }
 
     /** Wood, coal, wet, heat and fire of a cell at once. */
@@ -83,49 +44,6 @@ public final class PromisesTest {
 
     private static int[] at(int ring, int height) {
         return new int[] {ring, height};
-    }
-
-    private static void write(CharcoalYard y, String text) {
-        y.end(0);
-        for (int at = 0; at < text.length(); at += 4) {
-            int v = 0;
-            for (int i = at; i < at + 4; i++) {
-                v = v << 8 | (i < text.length() ? text.charAt(i) : 0);
-            }
-            y.sign(v);
-        }
-        y.end(text.length());
-    }
-
-    private static int tell(CharcoalYard y, String text) {
-        write(y, text);
-        return y.rule();
-    }
-
-    private static CharcoalYard laid(int rings, int heights, int kind) {
-        CharcoalYard y = new CharcoalYard();
-        y.clamp(rings, heights);
-        for (int ring = 0; ring < rings; ring++) {
-            for (int height = 0; height < heights; height++) {
-                y.lay(ring, height, kind);
-            }
-        }
-        return y;
-    }
-
-    /** One cell of a kind with one open hole, lit. */
-    private static CharcoalYard litOne(int kind) {
-        CharcoalYard y = laid(1, 1, kind);
-        y.hole(0, 0);
-        y.open(0, true);
-        y.light();
-        return y;
-    }
-
-    private static void work(CharcoalYard y, int hours) {
-        for (int i = 0; i < hours; i++) {
-            y.hour(0, 0);
-        }
     }
 
     private static void newObject() {
