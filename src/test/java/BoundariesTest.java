@@ -190,7 +190,8 @@ public final class BoundariesTest extends YardTest {
         sentence("promise 3", "NONE: no such CELL, KIND");
         CharcoalYard y = new CharcoalYard();
         y.clamp(2, 3);
-        int[][] none = {{2, 0, 0}, {-1, 0, 0}, {0, 3, 0}, {0, -1, 0}, {MIN, 0, 0}, {0, MAX, 0}, {0, 0, 4}, {0, 0, -1}, {0, 0, MIN}, {1, 2, MAX}};
+        int[][] none = {{2, 0, 0}, {-1, 0, 0}, {0, 3, 0}, {0, -1, 0}, {MIN, 0, 0}, {0, MAX, 0}, {0, 0, 4}, {0, 0, -1},
+            {0, 0, MIN}, {1, 2, MAX}};
         for (int[] n : none) {
             due("lay(" + n[0] + ", " + n[1] + ", " + n[2] + ")", y.lay(n[0], n[1], n[2]), -1);
         }
@@ -326,8 +327,8 @@ public final class BoundariesTest extends YardTest {
         sentence("promise 4", "NONE: no such HEIGHT, kind, n above 20");
         CharcoalYard y = new CharcoalYard();
         y.clamp(2, 3);
-        int[][] none = {{3, 2, 1}, {-1, 2, 1}, {MIN, 2, 1}, {MAX, 2, 1}, {0, -1, 1}, {0, 4, 1}, {0, MIN, 1}, {0, MAX, 1}, {0, 2, 21}, {0, 0, 21},
-            {0, 1, MAX}};
+        int[][] none = {{3, 2, 1}, {-1, 2, 1}, {MIN, 2, 1}, {MAX, 2, 1}, {0, -1, 1}, {0, 4, 1}, {0, MIN, 1}, {0, MAX, 1},
+            {0, 2, 21}, {0, 0, 21}, {0, 1, MAX}};
         for (int[] n : none) {
             due("layRow(" + n[0] + ", " + n[1] + ", " + n[2] + ", 0, 0)", y.layRow(n[0], n[1], n[2], 0, 0), -1);
         }
@@ -452,17 +453,17 @@ public final class BoundariesTest extends YardTest {
         sentence("promise 6", "no WOOD, or it is LIT");
         CharcoalYard y = litRow(2, 0);
         work(y, 2);
-        y.cover(1, 0, 8);
+        y.cover(0, 0, 0);
         y.open(0, false);
         tell(y, "t<99:+5");
         due("light()", y.light(), false);
         dueCell("heat is not 500 anew", y, 0, 0, 88, 3, 0, 620, 1);
         dueCounts("as it was", y, 2, 1, 1, 0, 1, 2, 1, 1, 2);
-        y.again(0, 1, 0);
-        due("worked again from the first light() on: cover", cell(y, 1, 0, 5), 8);
-        due("worked again from the first light() on: air", cell(y, 0, 0, 6), 3);
+        due("worked again from the first light() on: coal", y.again(0, 0, 1), 3);
+        due("the hole was open then, and the cover whole: air 3", y.told(1, 2), 9);
         due("a rule of hour 2 does not act from the first hour on", y.told(0, 3), 0);
-        work(y, 12);
+        y.cover(0, 0, 5);
+        work(y, 13);
         due("out", y.count(7), 0);
         due("without fire it is lit still", y.light(), false);
     }
@@ -863,6 +864,24 @@ public final class BoundariesTest extends YardTest {
         due("acts are kept", y.count(8), 7);
         due("worked again once more", y.again(2, 0, 0), 0);
         due("smoke of hour 1", y.told(1, 2), 12);
+        byHandAtItsPlace();
+    }
+
+    private static void byHandAtItsPlace() {
+        CharcoalYard y = laid(2, 2, 0);
+        y.hole(1, 0);
+        y.hole(0, 1);
+        y.light();
+        y.open(1, true);
+        y.cover(1, 1, 9);
+        y.hour(0, 0);
+        y.again(0, 1, 0);
+        due("air of the hole that was opened", cell(y, 0, 1, 6), 4);
+        due("air of the other", cell(y, 1, 0, 6), 2);
+        due("cover of the cell that was covered", cell(y, 1, 1, 5), 9);
+        due("cover of another", cell(y, 0, 1, 5), 5);
+        y.open(0, false);
+        due("the open one is hole 1", y.count(3), 1);
     }
 
     private static void byHandInTheHourThatIs() {
@@ -953,6 +972,11 @@ public final class BoundariesTest extends YardTest {
         due("one basket", one.rake(), 1);
         due("all is taken", one.all(2), 0);
         due("baskets in all", one.count(11), 1);
+        CharcoalYard two = litRow(3, 0);
+        work(two, 12);
+        due("22 coal", cell(two, 0, 0, 1), 22);
+        due("9 coal", cell(two, 1, 0, 1), 9);
+        due("one basket of two cells", two.rake(), 1);
     }
 
     private static void theRestIsThrownAway() {
@@ -1057,7 +1081,23 @@ public final class BoundariesTest extends YardTest {
             y.cover(1, 2, 4);
         }
         dueCounts("all of them", y, 2, 3, 4, 2, 5, 6, 1, 1, 8, 9, 10, 1);
+        basketsInAll();
         countOthers();
+    }
+
+    private static void basketsInAll() {
+        sentence("promise 13", "11: baskets in all");
+        CharcoalYard y = withCoal(10);
+        y.rake();
+        due("of one burning", y.count(11), 1);
+        y.lay(0, 0, 0);
+        y.lay(1, 0, 0);
+        y.open(0, true);
+        y.light();
+        work(y, 10);
+        due("not yet raked", y.count(11), 1);
+        y.rake();
+        due("of two burnings", y.count(11), 2);
     }
 
     private static void countOthers() {
@@ -1504,7 +1544,8 @@ public final class BoundariesTest extends YardTest {
             String twoWrong = text.substring(0, at) + "??";
             due(twoWrong, tell(new CharcoalYard(), twoWrong), -1 - at);
         }
-        String[] texts = {"tt", "t>>", "t>=1:^", "t>1&&", "t>1&:^", "t>1::", "t>1:&", "t>1:^&", "t>1:~~", "t>1:+-", "t>1:+1:", ":^", "1", "t1", "t>t"};
+        String[] texts = {"tt", "t>>", "t>=1:^", "t>1&&", "t>1&:^", "t>1::", "t>1:&", "t>1:^&", "t>1:~~", "t>1:+-", "t>1:+1:",
+            ":^", "1", "t1", "t>t"};
         int[] places = {1, 2, 2, 4, 4, 4, 4, 5, 5, 5, 6, 0, 0, 1, 2};
         for (int i = 0; i < texts.length; i++) {
             due(texts[i], tell(new CharcoalYard(), texts[i]), -1 - places[i]);

@@ -199,16 +199,35 @@ public final class TermsTest extends YardTest {
 
     private static void airThins() {
         sentence("Terms 2, part 1", "less how many RINGS and HEIGHTS it is off");
-        CharcoalYard y = laid(4, 4, 0);
-        y.hole(1, 3);
-        y.open(0, true);
-        y.light();
-        y.hour(0, 2);
-        for (int ring = 0; ring < 4; ring++) {
-            for (int height = 0; height < 4; height++) {
-                int off = Math.abs(ring - 1) + Math.abs(height - 3);
-                due("air of " + ring + ", " + height, cell(y, ring, height, 6), 6 - off);
+        int[][] sources = {{1, 3}, {0, 3}, {3, 0}, {3, 2}, {3, 3}};
+        for (int[] from : sources) {
+            CharcoalYard y = laid(4, 4, 0);
+            y.hole(from[0], from[1]);
+            y.open(0, true);
+            y.light();
+            y.hour(0, 3);
+            for (int ring = 0; ring < 4; ring++) {
+                for (int height = 0; height < 4; height++) {
+                    int off = Math.abs(ring - from[0]) + Math.abs(height - from[1]);
+                    due("air of " + ring + ", " + height, cell(y, ring, height, 6), 7 - off);
+                }
             }
+        }
+        airOfOneRow();
+    }
+
+    private static void airOfOneRow() {
+        CharcoalYard wide = laid(8, 1, 0);
+        CharcoalYard high = laid(1, 8, 0);
+        wide.cover(0, 0, 0);
+        high.cover(0, 0, 0);
+        wide.light();
+        high.light();
+        wide.hour(0, 3);
+        high.hour(0, 3);
+        for (int off = 0; off < 8; off++) {
+            due("air " + off + " rings off", cell(wide, off, 0, 6), 7 - off);
+            due("air " + off + " heights off", cell(high, 0, off, 6), 7 - off);
         }
     }
 
@@ -332,6 +351,11 @@ public final class TermsTest extends YardTest {
         due("4 left of 100 by 6", cell(exact, 0, 0, 0), 4);
         exact.hour(0, 0);
         due("none left", cell(exact, 0, 0, 0), 0);
+        CharcoalYard ring = litRow(3, 0);
+        work(ring, 11);
+        dueCell("ring 1 is dry", ring, 1, 0, 300, 0, 0, 334, 1);
+        ring.hour(0, 0);
+        dueCell("4 * 3 * 3 went", ring, 1, 0, 264, 9, 0, 454, 1);
     }
 
     private static void coalIsCut() {
@@ -356,6 +380,14 @@ public final class TermsTest extends YardTest {
         due("at most 1000", cell(y, 0, 0, 3), 1000);
         y.hour(0, 0);
         due("still", cell(y, 0, 0, 3), 1000);
+        CharcoalYard coal = litRow(2, 0);
+        work(coal, 10);
+        coal.open(0, false);
+        work(coal, 4);
+        dueCell("coal alone, cooled", coal, 0, 0, 0, 25, 0, 800, 1);
+        coal.open(0, true);
+        coal.hour(0, 0);
+        dueCell("120 more, though no wood went", coal, 0, 0, 0, 25, 0, 920, 1);
     }
 
     private static void ashAsFarAsThereIs() {
@@ -374,6 +406,12 @@ public final class TermsTest extends YardTest {
         old.hour(0, 3);
         due("11 and 6, less 15", cell(old, 0, 0, 1), 2);
         due("ash", old.all(4), 20);
+        CharcoalYard ring = litRow(3, 0);
+        work(ring, 13);
+        due("coal of ring 1", cell(ring, 1, 0, 1), 18);
+        ring.hour(0, 1);
+        due("18 and 12, less 5 * 3", cell(ring, 1, 0, 1), 15);
+        due("ash", ring.all(4), 15);
     }
 
     private static void ashAboveThreeAlone() {
@@ -436,6 +474,7 @@ public final class TermsTest extends YardTest {
         fireAheadOfPartTwo();
         withoutWoodAndCoalNone();
         withCoalAlone();
+        withOneCoal();
         theSumIsCut();
         heatAheadOfPartTwo();
         neighboursWithFireAlone();
@@ -522,6 +561,35 @@ public final class TermsTest extends YardTest {
         due("warmed", cell(y, 0, 0, 3), heat / 20);
         work(y, 12);
         due("caught again", cell(y, 0, 0, 4), 1);
+    }
+
+    /**
+     * Birch in ring 0 turns to 16 coal with air 2, of which air 4 leaves 1; without air it cools, while ring 1 burns on.
+     * A rule keeps it covered, so that no breach gives more air.
+     */
+    private static void withOneCoal() {
+        sentence("Terms 2, part 3", "has WOOD or COAL");
+        CharcoalYard y = new CharcoalYard();
+        y.clamp(5, 1);
+        y.lay(0, 0, 1);
+        y.lay(1, 0, 2);
+        y.hole(4, 0);
+        y.hole(3, 0);
+        y.open(0, true);
+        tell(y, "c<4:^");
+        y.light();
+        work(y, 10, 0, 2);
+        dueCell("16 coal", y, 0, 0, 0, 16, 0, 1000, 1);
+        y.open(1, true);
+        work(y, 3, 0, 3);
+        dueCell("1 coal", y, 0, 0, 0, 1, 0, 1000, 1);
+        y.open(1, false);
+        work(y, 20);
+        dueCell("cold", y, 0, 0, 0, 1, 0, 0, 0);
+        long heat = cell(y, 1, 0, 3);
+        due("ring 1 burns still", cell(y, 1, 0, 4), 1);
+        y.hour(0, 0);
+        due("warmed", cell(y, 0, 0, 3), heat / 20);
     }
 
     /** The two neighbours of the corner catch fire in hour 8, both with heat 334. */
@@ -624,10 +692,13 @@ public final class TermsTest extends YardTest {
         y.open(0, true);
         y.light();
         work(y, 10);
-        y.hour(0, 3);
-        due("the middle is below half", cell(y, 0, 0, 1) < 25, true);
+        work(y, 8, 0, 3);
+        due("the middle was below half for long", y.all(1) + y.all(2), 0);
         due("it has no cover", cell(y, 0, 0, 5), -1);
         due("it is no breach", y.breach(0, 0), -1);
+        y.open(0, false);
+        y.hour(0, 0);
+        due("it gives no air", cell(y, 0, 0, 6), 0);
         for (int i = 1; i < 4; i++) {
             due("cover of an empty one", cell(y, i / 2, i % 2, 5), 5);
         }
@@ -797,6 +868,8 @@ public final class TermsTest extends YardTest {
         digits();
         letters();
         relations();
+        betweenAsks();
+        actSigns();
         noBlanks();
     }
 
@@ -857,6 +930,30 @@ public final class TermsTest extends YardTest {
         int[] want = {0b001, 0b100, 0b010};
         for (int hour = 0; hour < 3; hour++) {
             due("below, above, equal in hour " + hour, y.told(hour, 3), want[hour]);
+        }
+    }
+
+    private static void betweenAsks() {
+        sentence("Terms 2", "ASKS with &amp; between, a colon, an ACT");
+        for (char sign = 0; sign < 256; sign++) {
+            boolean goesOn = sign == '&' || sign >= '0' && sign <= '9';
+            int want = sign == ':' ? 0 : goesOn ? -5 : -4;
+            due("sign " + (int) sign, tell(new CharcoalYard(), "t>1" + sign + "~"), want);
+        }
+        CharcoalYard y = laid(1, 1, 0);
+        tell(y, "t=0&t=1:+0");
+        tell(y, "t<2&t>0&r=0:+0");
+        y.light();
+        work(y, 2);
+        due("one of two is so", y.told(0, 3), 0);
+        due("all three are so", y.told(1, 3), 2);
+    }
+
+    private static void actSigns() {
+        sentence("Terms 2", "ACT: + or - and a NUMBER");
+        for (char sign = 0; sign < 256; sign++) {
+            int want = sign == '+' || sign == '-' ? 0 : sign == '^' || sign == '~' ? -6 : -5;
+            due("sign " + (int) sign, tell(new CharcoalYard(), "t>1:" + sign + "7"), want);
         }
     }
 
@@ -946,6 +1043,7 @@ public final class TermsTest extends YardTest {
         due("hole 1 for hole 0", y.count(3), 1);
         y.open(0, false);
         due("hole 1 is the open one", y.count(3), 1);
+        due("cover is as it was", cell(y, 0, 0, 5), 5);
     }
 
     private static void leastOfEqualOnes() {
@@ -963,6 +1061,12 @@ public final class TermsTest extends YardTest {
         y.cover(2, 2, 0);
         y.hour(0, 0);
         due("the least, though the last", cell(y, 2, 2, 5), 3);
+        CharcoalYard flat = laid(2, 1, 0);
+        tell(flat, "t=0:^");
+        flat.light();
+        flat.hour(0, 0);
+        due("the middle, if it is outside", cell(flat, 0, 0, 5), 8);
+        due("and no other", cell(flat, 1, 0, 5), 5);
     }
 
     private static void threeMoreAtMostNine() {
