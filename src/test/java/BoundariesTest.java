@@ -882,6 +882,22 @@ public final class BoundariesTest extends YardTest {
         due("cover of another", cell(y, 0, 1, 5), 5);
         y.open(0, false);
         due("the open one is hole 1", y.count(3), 1);
+        twelveHolesWorkedAgain();
+    }
+
+    private static void twelveHolesWorkedAgain() {
+        CharcoalYard y = laid(1, 1, 0);
+        for (int i = 0; i < 12; i++) {
+            y.hole(0, 0);
+            y.open(i, i % 2 == 1);
+        }
+        tell(y, "r=0:~");
+        y.light();
+        y.hour(0, 0);
+        due("all shut", y.count(3), 0);
+        due("again(0, 1, 0)", y.again(0, 1, 0), 0);
+        due("six open, as light() left them", y.count(3), 6);
+        due("the last one was", y.open(11, false) && y.count(3) == 5, true);
     }
 
     private static void byHandInTheHourThatIs() {
@@ -1700,6 +1716,9 @@ public final class BoundariesTest extends YardTest {
         due("woods", y.count(9), 12);
         due("stand(11, 0)", stand(y, 11, 0), 11);
         due("stand(12, 0)", stand(y, 12, 0), THROWN);
+        due("years(5) of twelve", y.years(5), true);
+        due("the last one's age", stand(y, 11, 0), 16);
+        due("cut(11)", y.cut(11), 1);
     }
 
     // ---- promise 23
